@@ -412,6 +412,7 @@ public final class PromiseTest {
         due("behind(1, 1)", x.behind(1, 1), 200);
         x.set(0, 100, 74);
         due("HEATER, too wet", x.run(0, 100, 1), 0);
+        due("HEATER, too wet by half a hundredth", x.run(0, 102, 1), 0);
         due("HEATER, dry enough", x.run(0, 104, 1), 1);
         x.set(0, 0, 0);
         due("HEATER to dry steam", x.run(0, 500, 1), 1);
@@ -540,8 +541,26 @@ public final class PromiseTest {
         x.run(0, 200, 1);
         due("SHARE of none WARMED", x.total(6), 0);
         due("SHARE of none WARMED", x.total(7), 1);
+        smallTotals();
         untoldTotal();
         workBelowNone();
+    }
+
+    private static void smallTotals() {
+        ColdHouse x = bench(COLD, new int[] {200, 150, 50, 501, 500, 50});
+        x.part(0, 1, 100);
+        x.part(2, 0, 0);
+        x.part(1, 0, 0);
+        x.part(2, 1, 0);
+        x.run(0, 500, 1);
+        due("WORK of 1", x.total(0), 1);
+        due("SHARE by 1", x.total(6), 300);
+        x.clear();
+        x.part(3, 1, 100);
+        x.part(3, -1, 100);
+        x.run(0, 500, 1);
+        due("WARMED by 1", x.total(2), 1);
+        due("COOLED by 1", x.total(4), 1);
     }
 
     private static void untoldTotal() {
@@ -631,6 +650,24 @@ public final class PromiseTest {
         x.part(0, 2, 100);
         due("doesn't come ROUND", x.best(0, 0), -6);
         twoAtOnce();
+        for (int more = 97; more < 161; more++) {
+            for (int other = 97; other < 161; other++) {
+                shares(170 + 30 * (other % 3), more, other);
+            }
+        }
+    }
+
+    /** Two PRESSURES of SHARES (500 - boiling) / more and 300 / other: the greater, the first of those alike. */
+    private static void shares(int boiling, int more, int other) {
+        ColdHouse x = bench(COLD, new int[] {boiling, 150, 50, 500 + more, 500, 50},
+                new int[] {200, 150, 50, 500 + other, 500, 50});
+        x.part(0, 1, 100);
+        x.part(2, 0, 0);
+        x.part(1, 0, 0);
+        x.part(2, 1, 0);
+        x.run(0, 500, 1);
+        int want = (500 - boiling) * other >= 300 * more ? 1 : 2;
+        due("best of " + (500 - boiling) + "/" + more + " and 300/" + other, x.best(0, 0), want);
     }
 
     /** A PRESS and a THROAT put to the same PRESSURE, between two others. */
@@ -739,6 +776,44 @@ public final class PromiseTest {
         x.image(1);
         due("one that is WARMED by nothing", x.joined(0, 1, 0), 0);
         due("one that is WARMED by nothing", x.joined(0, 1, 1), 1);
+        ColdHouse y = ringBench(100);
+        table(y, 200, 150, 50, 620, 500, 50);
+        y.run(0, 500, 1);
+        y.image(0);
+        y.set(0, 2, 100);
+        y.image(2);
+        // 15/7 and 5/2: 75/14 by (30 + 35 + 14)/14.
+        due("joined(0, 2, 0)", y.joined(0, 2, 0), 75);
+        due("joined(0, 2, 1)", y.joined(0, 2, 1), 79);
+        due("joined(2, 0, 0)", y.joined(2, 0, 0), 75);
+        due("joined(2, 0, 1)", y.joined(2, 0, 1), 79);
+        greatShares();
+    }
+
+    /** WORK 20297931/625000, and WARMED by 1600 in all: SHARE 1000000000/20297931, as great as may be. */
+    private static void greatShares() {
+        ColdHouse x = bench(new int[] {100, 100, 0, 300, 300, 0, 925, 303, 625}, new int[] {200, 0, 50, 977, 1000, 50});
+        x.part(0, 1, 100);
+        x.part(2, 0, 0);
+        x.part(1, 0, 0);
+        x.part(2, 2, 101);
+        for (int more : new int[] {500, 500, 399}) {
+            x.part(3, more, 100);
+            x.part(3, -more, 100);
+        }
+        due("run(0, 401, 1)", x.run(0, 401, 1), 10);
+        due("total(6)", x.total(6), 1_000_000_000);
+        due("total(7)", x.total(7), 20_297_931);
+        x.image(0);
+        due("as great as may be", x.joined(0, 0, 0), 1_000_000_000_000_000_000L);
+        due("as great as may be", x.joined(0, 0, 1), 41_007_868_002_880_761L);
+        x.set(8, 400, 100);
+        x.set(9, -400, 100);
+        x.run(0, 401, 1);
+        due("total(6)", x.total(6), 1_000_625_000);
+        x.image(1);
+        due("the second too great", x.joined(0, 1, 0), UNSAID);
+        due("the first too great", x.joined(1, 0, 1), UNSAID);
     }
 
     private static void count() {
