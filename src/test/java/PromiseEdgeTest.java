@@ -30,7 +30,8 @@ public final class PromiseEdgeTest {
         runs();
         images();
         Bench.sentence("19: NONE for others", PromiseEdgeTest::countOthers);
-        Bench.sentence("19: 0 PRESSURES, 1 PARTS, 2 PARTS that the latest RUN went through", PromiseEdgeTest::countFull);
+        Bench.sentence("19: 0 PRESSURES, 1 PARTS, 2 PARTS that the latest RUN went through",
+                PromiseEdgeTest::countFull);
         Bench.sentence("19: NONE without", PromiseEdgeTest::countWithoutRun);
         Bench.sentence("20: 0 if it was not, or ahead of any", PromiseEdgeTest::statusAheadOfAny);
         Bench.sentence("20: the latest call of those that can be REFUSED", PromiseEdgeTest::statusOfLatest);
@@ -75,8 +76,10 @@ public final class PromiseEdgeTest {
         Bench.sentence("10: -1 a HEAT (low not 1 .. 10,000,000", PromiseEdgeTest::runLower);
         Bench.sentence("10: or beyond the POINTS)", PromiseEdgeTest::runBeyond);
         Bench.sentence("10: -2 no such PRESSURE", PromiseEdgeTest::runNoPressure);
+        Bench.sentence("10: Of several STATES alike the fraction is put in lowest terms", PromiseEdgeTest::runAlike);
         Bench.sentence("10: kept as the latest", PromiseEdgeTest::runRefused);
-        Bench.sentence("11: The STATE behind i PARTS of the latest RUN (0 where it began)", PromiseEdgeTest::behindPlaces);
+        Bench.sentence("11: The STATE behind i PARTS of the latest RUN (0 where it began)",
+                PromiseEdgeTest::behindPlaces);
         Bench.sentence("11: what 0 PRESSURE, 1, 2 HEAT, 3, 4 ORDER, 5, 6 WARMTH", PromiseEdgeTest::behindWhat);
         Bench.sentence("11: UNSAID without", PromiseEdgeTest::behindWithout);
         Bench.sentence("12: ORDER MADE (2, 3; of COILS, HEATERS UNSAID)", PromiseEdgeTest::didKinds);
@@ -582,6 +585,19 @@ public final class PromiseEdgeTest {
         }
         x.due(-2, "run", 1, 500, FINEST);
         x.due(-1, "run", 1, 500, FINEST + 1);
+    }
+
+    private static void runAlike() {
+        Bench x = new Bench(LINE);
+        for (long times : new long[] {1, 2, 3, 1_428_571}) {
+            x.due(0, "run", 0, 15 * times, 7 * times);
+            x.fraction(15, 7, "behind", 0, 1);
+        }
+        x.due(-1, "run", 0, 15L * 1_428_572, 7L * 1_428_572);
+        for (long low : new long[] {1, 2, FINEST}) {
+            x.due(0, "run", 0, 0, low);
+            x.fraction(0, 1, "behind", 0, 1);
+        }
     }
 
     private static void runRefused() {

@@ -92,12 +92,15 @@ public final class TermsEdgeTest {
         Bench.sentence("it has not STOPPED, and ends in the STATE in which it began", TermsEdgeTest::comesRound);
         Bench.sentence("WORK, WARMED, COOLED are the sums over its PARTS", TermsEdgeTest::sums);
         Bench.sentence("a RUN that comes ROUND and whose WORK is above 0", TermsEdgeTest::workAboveNone);
-        Bench.sentence("the least common lower number of all HEATS of the RUN is above 10 to the 12", TermsEdgeTest::untold);
+        Bench.sentence("the least common lower number of all HEATS of the RUN is above 10 to the 12",
+                TermsEdgeTest::untold);
         Bench.sentence("None of these is told", TermsEdgeTest::untoldRound);
-        Bench.sentence("not told, if the least common lower number of both is above 10 to the 15", TermsEdgeTest::orderMade);
+        Bench.sentence("not told, if the least common lower number of both is above 10 to the 15",
+                TermsEdgeTest::orderMade);
         Bench.sentence("each a PRESS or THROAT", TermsEdgeTest::bestKinds);
         Bench.sentence("of all PRESSURES put for a of both of them", TermsEdgeTest::bestOfAll);
-        Bench.sentence("for which the RUN from its beginning comes ROUND and has a SHARE", TermsEdgeTest::bestWithShare);
+        Bench.sentence("for which the RUN from its beginning comes ROUND and has a SHARE",
+                TermsEdgeTest::bestWithShare);
         Bench.sentence("the greatest SHARE; of those alike the lowest PRESSURE", TermsEdgeTest::bestAlike);
         Bench.sentence("told, if all four numbers of these are 1,000,000,000 at most", TermsEdgeTest::joinedUpper);
         Bench.sentence("told, if all four numbers of these are 1,000,000,000 at most", TermsEdgeTest::joinedLower);
@@ -396,6 +399,11 @@ public final class TermsEdgeTest {
                         2 * column - 2);
             }
         }
+        Bench steep = new Bench(STEEP);
+        for (int i = 0; i < 7; i++) {
+            steep.fraction(2 * i + 1, 2, "state", 0, 2 * i + 1, 2, 0);
+            steep.fraction(i == 0 ? 0 : 2 * i - 1, i == 0 ? 1 : 2, "state", 0, 2 * i + 1, 2, 2);
+        }
     }
 
     private static void wetShare() {
@@ -570,11 +578,18 @@ public final class TermsEdgeTest {
         x.due(600, "behind", 1, 1);
         x.due(0, "run", 0, 8_000_000_003L, FINEST);
         x.due(1, "run", 0, 7_999_999_997L, FINEST);
-        Bench y = new Bench(LINE, WARM);
+        x.due(0, "run", 0, 399_999_999, 2_000_000);
+        x.due(0, "run", 0, 1_600_000_001, 2_000_000);
+        // Two POINTS, three, and as many as may be.
+        int[] full = with(EIGHT, 22, 900);
+        Bench y = new Bench(LINE, NARROW, WARM, full);
         y.call("part", 0, 1, 100);
-        y.due(1, "run", 0, 630, 1);
-        y.due(900, "behind", 1, 1);
-        y.due(0, "run", 0, 6301, 10);
+        for (long[] last : new long[][] {{1, 800, 700}, {2, 630, 900}, {3, 900, 700}}) {
+            y.call("set", 0, last[0], 100);
+            y.due(1, "run", 0, last[1], 1);
+            y.due(last[2], "behind", 1, 1);
+            y.due(0, "run", 0, 10 * last[1] + 1, 10);
+        }
     }
 
     /** By share 10 the HEAT x goes out as (5000 - 7 x) / 3: as 700, the last, from 2900/7, as 300 from 4100/7. */
@@ -709,6 +724,12 @@ public final class TermsEdgeTest {
         x.fraction(600, 1, "behind", 1, 1);
         x.call("set", 0, 2, 1);
         x.due(0, "run", 1, 300, 1);
+        Bench full = new Bench(STEEP);
+        full.call("part", 2, 2, 6);
+        full.due(1, "run", 0, 0, 1);
+        full.fraction(7, 1, "behind", 1, 1);
+        full.call("set", 0, 2, 7);
+        full.due(0, "run", 0, 0, 1);
     }
 
     private static void warmedAndCooled() {
@@ -978,7 +999,7 @@ public final class TermsEdgeTest {
     }
 
     /**
-     * An ORDER has a lower number with 5^14 at most, and primes above 1000 come from the beginning
+     * An ORDER has a lower number with 5^14 at most, and primes above 1000 come from the HEAT ahead
      * alone, at most 10^7 in all: so from 10^15 to 10^15 + 63 none can be. 10^15 - 1 and 10^15 + 64 can.
      */
     private static void orderMade() {
@@ -1039,7 +1060,8 @@ public final class TermsEdgeTest {
         falling.due(0, "behind", 3, 0);
         // A PRESS and a THROAT between COLD and the highest: by share 50 PRESSURE 2 takes less WORK.
         Bench both = new Bench(COLD, new int[] {150, 120, 20, 510, 500, 20, 700, 600, 120},
-                new int[] {160, 130, 30, 505, 500, 30, 700, 600, 130}, new int[] {250, 200, 60, 600, 500, 60, 900, 800, 200});
+                new int[] {160, 130, 30, 505, 500, 30, 700, 600, 130},
+                new int[] {250, 200, 60, 600, 500, 60, 900, 800, 200});
         both.parts(new int[][] {{0, 0, 50}, {0, 3, 100}, {2, 0, 0}, {1, 0, 0}, {1, 0, 0}, {2, 1, 0}});
         both.call("run", 0, 500, 1);
         both.due(2, "best", 0, 3);
@@ -1078,16 +1100,21 @@ public final class TermsEdgeTest {
         nineAbove(51, 50, 50, 51, 50, 52, 51, 50, 51).due(2, "best", 0, 0);
         nineAbove(51, 51, 51, 51, 51, 51, 51, 51, 50).due(9, "best", 0, 0);
         nineAbove(50, 51, 51, 51, 51, 51, 51, 51, 50).due(1, "best", 0, 0);
-        // 299/497 is greater than 300/499, by 101 of 248003.
-        int[] greater = {201, 150, 50, 997, 500, 50};
-        int[] less = {200, 150, 50, 999, 500, 50};
-        bestOfTwo(1, greater, less);
-        bestOfTwo(2, less, greater);
-        bestOfTwo(1, less, less);
+        // From the greatest on, some of them close: 299/497 is above 300/499 by 101 of 248003.
+        int[][] falling = {{301, 100}, {300, 100}, {299, 100}, {101, 100}, {100, 100}, {100, 101}, {299, 497},
+            {300, 499}, {100, 299}, {100, 300}, {100, 301}, {99, 300}, {1, 499}};
+        for (int i = 1; i < falling.length; i++) {
+            bestOfTwo(1, falling[i - 1], falling[i]);
+            bestOfTwo(2, falling[i], falling[i - 1]);
+            bestOfTwo(1, falling[i], falling[i]);
+        }
+        bestOfTwo(1, new int[] {300, 100}, new int[] {150, 50});
     }
 
+    /** By PRESSURES 1 and 2 the ring is WARMED by the one number and takes the other of WORK. */
     private static void bestOfTwo(int want, int[] one, int[] two) {
-        Bench x = new Bench(COLD, one, two);
+        Bench x = new Bench(COLD, new int[] {500 - one[0], 150, 50, 500 + one[1], 500, 50},
+                new int[] {500 - two[0], 150, 50, 500 + two[1], 500, 50});
         x.parts(new int[][] {{0, 1, 100}, {2, 0, 0}, {1, 0, 0}, {2, 1, 0}});
         x.call("run", 0, 500, 1);
         x.due(want, "best", 0, 0);
